@@ -1,9 +1,5 @@
 /** The nine promises one after the other; the results of the operations themselves are in OperationsTest. */
 public final class PromisesTest {
-    private static final int SET = 0;
-    private static final int ADD = 2;
-    private static final int SKIP = 17;
-    private static final int BACK = 18;
     private static final int LOWEST = Integer.MIN_VALUE;
     private static final int HIGHEST = Integer.MAX_VALUE;
 
@@ -25,16 +21,6 @@ public final class PromisesTest {
         Due.end();
     }
 
-    /** A machine with count lines, each of which adds variable 7, which is 1, to variable 0: variable 0 counts lines done. */
-    private static BitSerialMachine counting(int count) {
-        BitSerialMachine machine = new BitSerialMachine();
-        machine.set(7, 1);
-        for (int i = 0; i < count; i++) {
-            Due.is("emit number " + i, i + 1, machine.emit(ADD, 0, 0, 7));
-        }
-        return machine;
-    }
-
     private static void promise1NewObject() {
         BitSerialMachine machine = new BitSerialMachine();
         for (int i = 0; i < 8; i++) {
@@ -43,11 +29,11 @@ public final class PromisesTest {
         Due.is("new: next", 0, machine.next());
         Due.is("new: total", 0, machine.total());
         Due.is("new: run", 0, machine.run(60));
-        Due.is("new: first emit", 1, machine.emit(SET, 0, 1, 0));
+        Due.is("new: first emit", 1, machine.emit(Ops.SET, 0, 1, 0));
     }
 
     private static void promise1ObjectsAreApart() {
-        BitSerialMachine first = counting(3);
+        BitSerialMachine first = Machines.counting(3);
         first.run(2);
         BitSerialMachine second = new BitSerialMachine();
         Due.is("apart: next of the second", 0, second.next());
@@ -69,7 +55,7 @@ public final class PromisesTest {
 
     private static void promise2EmitRefusesUnknownOps() {
         int[] unknown = {-1, -2, 19, 20, 32, 256, 65536, LOWEST, LOWEST + 18, HIGHEST};
-        BitSerialMachine machine = counting(2);
+        BitSerialMachine machine = Machines.counting(2);
         machine.run(1);
         for (int op : unknown) {
             Due.is("emit of op " + op, -1, machine.emit(op, 0, 99, 7));
@@ -78,26 +64,26 @@ public final class PromisesTest {
         Due.is("refused op: total", 2, machine.total());
         Due.is("refused op: run", 1, machine.run(60));
         Due.is("refused op: variable 0", 2, machine.get(0));
-        Due.is("refused op: emit after", 3, machine.emit(SET, 0, 99, 0));
+        Due.is("refused op: emit after", 3, machine.emit(Ops.SET, 0, 99, 0));
     }
 
     private static void promise2EmitRefusesAFullProgram() {
-        BitSerialMachine machine = counting(32);
-        Due.is("full: emit", -1, machine.emit(SET, 0, 99, 0));
-        Due.is("full: emit again", -1, machine.emit(SKIP, 0, 1, 7));
+        BitSerialMachine machine = Machines.counting(32);
+        Due.is("full: emit", -1, machine.emit(Ops.SET, 0, 99, 0));
+        Due.is("full: emit again", -1, machine.emit(Ops.SKIP, 0, 1, 7));
         Due.is("full: emit of an unknown op", -1, machine.emit(19, 0, 0, 0));
         Due.is("full: next", 0, machine.next());
         Due.is("full: run", 32, machine.run(60));
         Due.is("full: variable 0", 32, machine.get(0));
         Due.is("full: next at the end", 32, machine.next());
-        Due.is("full: emit at the end", -1, machine.emit(SET, 0, 99, 0));
+        Due.is("full: emit at the end", -1, machine.emit(Ops.SET, 0, 99, 0));
         Due.is("full: run at the end", 0, machine.run(60));
         machine.clear();
-        Due.is("full: emit after clear", 1, machine.emit(SET, 0, 99, 0));
+        Due.is("full: emit after clear", 1, machine.emit(Ops.SET, 0, 99, 0));
     }
 
     private static void promise3Clear() {
-        BitSerialMachine machine = counting(5);
+        BitSerialMachine machine = Machines.counting(5);
         machine.set(3, -4);
         machine.run(3);
         machine.clear();
@@ -106,14 +92,14 @@ public final class PromisesTest {
         Due.is("clear: variable 3", -4, machine.get(3));
         Due.is("clear: variable 7", 1, machine.get(7));
         Due.is("clear: run", 0, machine.run(60));
-        Due.is("clear: emit", 1, machine.emit(SET, 1, 12, 0));
+        Due.is("clear: emit", 1, machine.emit(Ops.SET, 1, 12, 0));
         Due.is("clear: run of the new line alone", 1, machine.run(60));
         Due.is("clear: variable 0 after it", 3, machine.get(0));
         Due.is("clear: variable 1 after it", 12, machine.get(1));
         machine.clear();
         machine.clear();
         for (int i = 0; i < 32; i++) {
-            Due.is("clear: emit number " + i, i + 1, machine.emit(ADD, 0, 0, 7));
+            Due.is("clear: emit number " + i, i + 1, machine.emit(Ops.ADD, 0, 0, 7));
         }
     }
 
@@ -126,7 +112,7 @@ public final class PromisesTest {
             machine.set(4, values[i]);
             Due.is("get after set to " + values[i], wants[i], machine.get(4));
         }
-        BitSerialMachine machine = counting(2);
+        BitSerialMachine machine = Machines.counting(2);
         machine.run(1);
         int[] offsets = {0, 8, -8, 64, 65536, LOWEST, HIGHEST - 7};
         for (int offset : offsets) {
@@ -144,7 +130,7 @@ public final class PromisesTest {
     }
 
     private static void promise6Rewind() {
-        BitSerialMachine machine = counting(4);
+        BitSerialMachine machine = Machines.counting(4);
         machine.rewind();
         Due.is("rewind at the start: next", 0, machine.next());
         machine.run(3);
@@ -155,7 +141,7 @@ public final class PromisesTest {
         Due.is("rewind: run", 4, machine.run(60));
         machine.rewind();
         Due.is("rewind at the end: next", 0, machine.next());
-        Due.is("rewind: emit", 5, machine.emit(ADD, 0, 0, 7));
+        Due.is("rewind: emit", 5, machine.emit(Ops.ADD, 0, 0, 7));
         Due.is("rewind: run with the new line", 5, machine.run(60));
         Due.is("rewind: variable 0 at last", 12, machine.get(0));
     }
@@ -164,8 +150,8 @@ public final class PromisesTest {
         int[] budgets = {LOWEST, -60, -1, 0, 1, 2, 59, 60, 61, 100, 1000, HIGHEST};
         int[] wants = {0, 0, 0, 0, 1, 2, 59, 60, 60, 60, 60, 60};
         for (int i = 0; i < budgets.length; i++) {
-            BitSerialMachine machine = counting(1);
-            machine.emit(BACK, 0, 7, 1);
+            BitSerialMachine machine = Machines.counting(1);
+            machine.emit(Ops.BACK, 0, 7, 1);
             Due.is("run(" + budgets[i] + ")", wants[i], machine.run(budgets[i]));
             Due.is("run(" + budgets[i] + "): variable 0", (wants[i] + 1) / 2, machine.get(0));
             Due.is("run(" + budgets[i] + "): next", wants[i] % 2, machine.next());
@@ -173,7 +159,7 @@ public final class PromisesTest {
     }
 
     private static void promise7RunGoesOn() {
-        BitSerialMachine machine = counting(9);
+        BitSerialMachine machine = Machines.counting(9);
         Due.is("first run", 4, machine.run(4));
         Due.is("variable 0 after the first run", 4, machine.get(0));
         Due.is("run of no line", 0, machine.run(0));
@@ -183,7 +169,7 @@ public final class PromisesTest {
         Due.is("fourth run", 0, machine.run(3));
         Due.is("next at the end", 9, machine.next());
         Due.is("variable 0 at the end", 9, machine.get(0));
-        machine.emit(ADD, 0, 0, 7);
+        machine.emit(Ops.ADD, 0, 0, 7);
         Due.is("run of a line added at the end", 1, machine.run(60));
         Due.is("variable 0 after the added line", 10, machine.get(0));
     }
@@ -200,11 +186,11 @@ public final class PromisesTest {
     }
 
     private static void skipOverLines(int x, int b, int left) {
-        BitSerialMachine machine = counting(1);
+        BitSerialMachine machine = Machines.counting(1);
         machine.set(3, x);
-        Due.is("SKIP: emit", 2, machine.emit(SKIP, 7, 11, b));
+        Due.is("SKIP: emit", 2, machine.emit(Ops.SKIP, 7, 11, b));
         for (int i = 0; i < 9; i++) {
-            machine.emit(ADD, 0, 0, 7);
+            machine.emit(Ops.ADD, 0, 0, 7);
         }
         String what = "SKIP with x " + x + " and b " + b;
         Due.is(what + ": run of two lines", 2, machine.run(2));
@@ -236,9 +222,9 @@ public final class PromisesTest {
     }
 
     private static void backFrom(int at, int x, int b, int want) {
-        BitSerialMachine machine = counting(at);
+        BitSerialMachine machine = Machines.counting(at);
         machine.set(3, x);
-        machine.emit(BACK, 7, -5, b);
+        machine.emit(Ops.BACK, 7, -5, b);
         String what = "BACK at line " + at + " with x " + x + " and b " + b;
         Due.is(what + ": run", at + 1, machine.run(at + 1));
         Due.is(what + ": next", want, machine.next());
@@ -247,22 +233,22 @@ public final class PromisesTest {
     }
 
     private static void promise8NextBeyondTheEnd() {
-        BitSerialMachine machine = counting(2);
-        machine.emit(SKIP, 0, 6, 3);
+        BitSerialMachine machine = Machines.counting(2);
+        machine.emit(Ops.SKIP, 0, 6, 3);
         Due.is("SKIP over the end: run", 3, machine.run(60));
         for (int i = 0; i < 3; i++) {
             Due.is("SKIP over the end: next", 6, machine.next());
-            Due.is("SKIP over the end: emit", 4 + i, machine.emit(ADD, 0, 0, 7));
+            Due.is("SKIP over the end: emit", 4 + i, machine.emit(Ops.ADD, 0, 0, 7));
             Due.is("SKIP over the end: run of nothing", 0, machine.run(60));
         }
-        Due.is("SKIP over the end: emit of line 6", 7, machine.emit(SET, 5, 44, 0));
+        Due.is("SKIP over the end: emit of line 6", 7, machine.emit(Ops.SET, 5, 44, 0));
         Due.is("SKIP over the end: run of line 6", 1, machine.run(60));
         Due.is("SKIP over the end: variable 5", 44, machine.get(5));
         Due.is("SKIP over the end: variable 0", 2, machine.get(0));
         Due.is("SKIP over the end: next at last", 7, machine.next());
 
-        BitSerialMachine full = counting(31);
-        full.emit(SKIP, 0, 6, 7);
+        BitSerialMachine full = Machines.counting(31);
+        full.emit(Ops.SKIP, 0, 6, 7);
         Due.is("SKIP on the last line: run", 32, full.run(60));
         Due.is("SKIP on the last line: next", 39, full.next());
         Due.is("SKIP on the last line: run again", 0, full.run(60));
@@ -282,7 +268,7 @@ public final class PromisesTest {
                 Due.is("total of " + (i + 1) + " times " + values[k], (i + 1) * wants[k], machine.total());
             }
         }
-        BitSerialMachine mixed = counting(3);
+        BitSerialMachine mixed = Machines.counting(3);
         mixed.set(1, -2);
         mixed.set(2, 300);
         mixed.run(2);
